@@ -471,7 +471,7 @@ public final class PathProfiler {
             length++;
         }
 
-        /** What node a character would be; no graph may have it. */
+        /** The node that a character stands for; there may be no such node. */
         int nodeAt(int at) {
             return codes[at] - 'a';
         }
@@ -887,7 +887,7 @@ public final class PathProfiler {
             return last >= END && last < START ? last - END : NONE;
         }
 
-        /** How many nodes are visited: the entry is not before a start link, and so on. */
+        // A start link does not visit the entry, nor an end link the exit.
         int nodeNumber() {
             int number = tracedLength + 1;
             if (startEdge() != NONE) {
@@ -905,7 +905,8 @@ public final class PathProfiler {
             return place == 0 ? ENTRY : links.targets[traced[place - 1]];
         }
 
-        /** The lowest number of a path with these nodes: the values of its links are the lowest. */
+        // Paths with the same nodes differ in their start links and end links alone, so the lowest
+        // of each make the lowest number.
         int numberOf(Text text) {
             if (text.length == 0) {
                 return NONE;
