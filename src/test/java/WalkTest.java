@@ -23,7 +23,8 @@ public final class WalkTest {
 
     private static void step() {
         Script.play("21: no walk", LOOP + "step(0) = throws IllegalStateException; "
-                + "step(-1) = throws IllegalStateException; step(9) = throws IllegalStateException");
+                + "step(-1) = throws IllegalStateException; "
+                + "step(9) = throws IllegalStateException");
         Script.play("21: indexes", LOOP + "start() = done; "
                 + "step(1) = throws IndexOutOfBoundsException; "
                 + "step(-1) = throws IndexOutOfBoundsException; "
