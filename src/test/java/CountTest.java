@@ -70,7 +70,7 @@ public final class CountTest {
 
     // The last path, 199, visits d alone: from the start link of ed to the end link of dc.
     private static void twoHundredPaths() {
-        Script.play("24 to 27: 200 paths", WalkTest.PATHS_200 + "count(199) = 0; "
+        Script.play("24 to 27: 200 paths", Graphs.PATHS_200 + "count(199) = 0; "
                 + "count(200) = throws IndexOutOfBoundsException; share(199) = 0.0; "
                 + "share(200) = throws IndexOutOfBoundsException; pathLength(199) = 1; "
                 + "pathNode(199, 0) = 3; pathEdge(199, false) = 16; pathEdge(199, true) = 13; "
@@ -84,7 +84,7 @@ public final class CountTest {
         unanswered("24 to 27: no analysis", "");
         unanswered("24 to 27: a graph that cannot be analysed", "setNodes(3) = done; "
                 + "addEdge(0, 2) = 0; analyse() = 0; ");
-        unanswered("24 to 27: 201 paths", WalkTest.PATHS_201);
+        unanswered("24 to 27: 201 paths", Graphs.PATHS_201);
         count();
         share();
         hottest();

@@ -46,13 +46,7 @@ public final class DigestTest {
 
     // With 201 paths the counts are left out; Reference says the rest.
     private static void moreThan200Paths() {
-        Reference reference = new Reference();
-        String text = "h:ab,bc,cd,de,ef,fg,gh,fb,gb,gf,fc,cc,gd,df,cf,bd,be,fe";
-        for (char sign : text.toCharArray()) {
-            reference.append(sign);
-        }
-        reference.load();
-        reference.analyse();
-        Script.play("28: 201 paths", WalkTest.PATHS_201 + "digest() = " + reference.digest());
+        Script reference = new Script("28: reference", new Reference()).then(Graphs.PATHS_201);
+        Script.play("28: 201 paths", Graphs.PATHS_201 + "digest() = " + reference.ask("digest()"));
     }
 }

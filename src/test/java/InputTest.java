@@ -1,8 +1,5 @@
 /** Promises 6 to 9: append, clearInput, firstError and load. */
 public final class InputTest {
-    private static final String NINETEEN_EDGES = "l:ab,ac,ad,ae,af,ag,ah,ai,aj,ak,al,bc,bd,be,bf,"
-            + "bg,bh,bi,bj";
-
     private static void append() {
         Script.play("6: codes", "append(31) = throws IllegalArgumentException; append(32) = 1; "
                 + "append(126) = 2; append(127) = throws IllegalArgumentException; "
@@ -78,15 +75,15 @@ public final class InputTest {
         error("l:ll", 2);
         error("k:ak,bl", 6);
         error("c:ab,bc,bc,zz", 9);
-        error(NINETEEN_EDGES, 58);
-        error(NINETEEN_EDGES + ",b", 60);
-        error(NINETEEN_EDGES + ",,", 59);
-        error(NINETEEN_EDGES + ",l", 59);
+        error(Graphs.NINETEEN_EDGES, 58);
+        error(Graphs.NINETEEN_EDGES + ",b", 60);
+        error(Graphs.NINETEEN_EDGES + ",,", 59);
+        error(Graphs.NINETEEN_EDGES + ",l", 59);
     }
 
     private static void load() {
         for (String text : new String[] {"", "c", "c:", "c:a", "c:ab,", "c:ab,b", "C:ab", "c:ab,ab",
-            NINETEEN_EDGES + ",", NINETEEN_EDGES + ",b"}) {
+            Graphs.NINETEEN_EDGES + ",", Graphs.NINETEEN_EDGES + ",b"}) {
             new Script("9: no graph: " + text).then("addEdge(0, 1) = 0; analyse() = 1; "
                     + "start() = done; step(0) = 1").write(text).then(
                     "load() = throws IllegalStateException; edgeCount() = 1; count(0) = 1; "
@@ -102,7 +99,7 @@ public final class InputTest {
                 + "setWeight(0, 70) = 1; analyse() = 1; start() = done; step(0) = 1; text(b:ab); "
                 + "load() = 1; count(0) = throws IllegalStateException; current() = -1; "
                 + "register() = 0; hottest() = -1; setWeight(0, 3) = 1");
-        Script.play("9: the greatest graph of a text", "text(" + NINETEEN_EDGES + "); "
+        Script.play("9: the greatest graph of a text", "text(" + Graphs.NINETEEN_EDGES + "); "
                 + "load() = 19; edgeCount() = 19; addEdge(1, 10) = 19; "
                 + "addEdge(1, 9) = throws IllegalArgumentException");
         Script.play("9: fewer nodes than before", "setNodes(12) = done; text(b:ab); load() = 1; "

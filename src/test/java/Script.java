@@ -7,19 +7,28 @@ import java.lang.reflect.Method;
  * not one of the class: it appends each of the characters between the parentheses.
  *
  * <p>Beside the answers it looks at the digest: a call that throws, or that only asks, must leave
- * it as it was.
+ * it as it was. It also looks that the test keeps to the calls for which the document promises an
+ * answer.
  */
 final class Script {
     private static final String CHANGERS =
             " setNodes addEdge setWeight append clearInput load analyse start step ";
+    private static final int PROMISED_CALLS = 512;
 
     private final String title;
-    private final PathProfiler profiler = new PathProfiler();
+    private final Object object;
+    private int used = 0;
     private static int wrong = 0;
     private static int calls = 0;
 
     Script(String title) {
+        this(title, new PathProfiler());
+    }
+
+    /** Plays the calls on another object with the methods of PathProfiler. */
+    Script(String title, Object object) {
         this.title = title;
+        this.object = object;
     }
 
     static void play(String title, String calls) {
@@ -54,13 +63,24 @@ final class Script {
     /** Appends a text that has signs which a row can't have. */
     Script write(String text) {
         for (char sign : text.toCharArray()) {
-            profiler.append(sign);
+            ask("append(" + (int) sign + ")");
         }
         return this;
     }
 
-    long digest() {
-        return profiler.digest();
+    /** The answer of a call, with nothing compared. */
+    String ask(String call) {
+        int open = call.indexOf('(');
+        String inside = call.substring(open + 1, call.length() - 1).strip();
+        return answer(call.substring(0, open),
+                inside.isEmpty() ? new String[0] : inside.split(", *"));
+    }
+
+    private void use() {
+        used++;
+        if (used == PROMISED_CALLS + 1) {
+            due(title + ": calls on one object", used, "at most " + PROMISED_CALLS);
+        }
     }
 
     private void playRow(String row) {
@@ -71,18 +91,17 @@ final class Script {
         int equals = row.lastIndexOf(" = ");
         String call = row.substring(0, equals);
         String want = row.substring(equals + 3);
-        int open = call.indexOf('(');
-        String name = call.substring(0, open);
-        String inside = call.substring(open + 1, call.length() - 1).strip();
-        long before = profiler.digest();
-        String got = answer(name, inside.isEmpty() ? new String[0] : inside.split(", *"));
+        String name = call.substring(0, call.indexOf('('));
+        String before = ask("digest()");
+        String got = ask(call);
         due(title + ": " + call, got, want);
         if (got.startsWith("throws ") || !CHANGERS.contains(" " + name + " ")) {
-            due(title + ": digest after " + call, profiler.digest(), before);
+            due(title + ": digest after " + call, ask("digest()"), before);
         }
     }
 
     private String answer(String name, String[] arguments) {
+        use();
         try {
             Method method = find(name);
             Object[] values = new Object[arguments.length];
@@ -91,7 +110,7 @@ final class Script {
                         ? (Object) Boolean.valueOf(arguments[i])
                         : (Object) Integer.valueOf(arguments[i]);
             }
-            Object result = method.invoke(profiler, values);
+            Object result = method.invoke(object, values);
             return method.getReturnType() == void.class ? "done" : String.valueOf(result);
         } catch (InvocationTargetException e) {
             return "throws " + e.getCause().getClass().getSimpleName();
@@ -100,8 +119,8 @@ final class Script {
         }
     }
 
-    private static Method find(String name) {
-        for (Method method : PathProfiler.class.getDeclaredMethods()) {
+    private Method find(String name) {
+        for (Method method : object.getClass().getDeclaredMethods()) {
             if (method.getName().equals(name)) {
                 return method;
             }

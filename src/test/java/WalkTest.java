@@ -1,17 +1,13 @@
 /** Promises 20 to 23: start, step, current and register. */
 public final class WalkTest {
     private static final String LOOP = "text(d:ab,bc,cb,bd); load() = 4; analyse() = 4; ";
-    static final String PATHS_200 = "text(g:ab,bc,cd,de,ef,fg,fb,fe,ff,bd,fd,eb,db,dc,df,cb,ed); "
-            + "load() = 17; analyse() = 200; ";
-    static final String PATHS_201 = "text(h:ab,bc,cd,de,ef,fg,gh,fb,gb,gf,fc,cc,gd,df,cf,bd,be,fe);"
-            + " load() = 18; analyse() = 201; ";
 
     private static void start() {
         Script.play("20: no analysis", "start() = throws IllegalStateException; current() = -1; "
                 + "register() = 0; addEdge(0, 1) = 0; start() = throws IllegalStateException; "
                 + "analyse() = 1; start() = done; current() = 0; register() = 0");
-        Script.play("20: 200 paths", PATHS_200 + "start() = done; current() = 0");
-        Script.play("20: 201 paths", PATHS_201 + "start() = throws IllegalStateException; "
+        Script.play("20: 200 paths", Graphs.PATHS_200 + "start() = done; current() = 0");
+        Script.play("20: 201 paths", Graphs.PATHS_201 + "start() = throws IllegalStateException; "
                 + "current() = -1; register() = 0; step(0) = throws IllegalStateException; "
                 + "hottest() = -1");
         Script.play("20: a walk that is given up", LOOP + "start() = done; step(0) = 1; "
