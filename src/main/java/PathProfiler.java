@@ -538,7 +538,7 @@ public final class PathProfiler {
         }
 
         private boolean takesTarget(int node) {
-            if (!draft.allows(source, node)) {
+            if (draft.isFull() || !draft.allows(source, node)) {
                 return false;
             }
             draft.add(source, node);
@@ -603,15 +603,17 @@ public final class PathProfiler {
         private void leave(int node) {
             onPath[node] = false;
             depth--;
-            left[leftNumber] = node;
-            leftNumber++;
+            if (leftNumber < MAX_NODES) {
+                left[leftNumber] = node;
+                leftNumber++;
+            }
         }
 
         private void follow(int edge) {
             int target = graph.targets[edge];
             if (onPath[target]) {
                 back[edge] = true;
-            } else if (!reached[target]) {
+            } else if (!reached[target] && depth < MAX_NODES) {
                 enter(target);
             }
         }

@@ -173,7 +173,12 @@ final class AnalysisBounds {
     private static void increments() {
         Sentences.play(0, "Each node gets a potential",
                 HEAVY_LOOP + "increment(2, true) = 0; increment(2, false) = 0; "
-                + "increment(0, true) = -2; increment(1, true) = 2; increment(3, true) = 3");
+                + "increment(0, true) = -2; increment(1, true) = 2; increment(3, true) = 3",
+                // The tree grows in pieces: bd, then cd, and at last ab, which joins them to a.
+                "text(e:ab,ac,be,bd,cd,de); load() = 6; setWeight(3, 9) = 1; setWeight(4, 8) = 1; "
+                + "analyse() = 3; increment(0, true) = 0; increment(1, true) = 1; "
+                + "increment(2, true) = 0; increment(3, true) = 0; increment(4, true) = 0; "
+                + "increment(5, true) = 1; chords(false) = 3; chords(true) = 3");
         Sentences.play(0, "The increment of a link from x to y",
                 HEAVY_LOOP + "value(0, true) = 0; increment(0, true) = -2; value(1, true) = 0; "
                 + "increment(1, true) = 2; value(3, true) = 1; increment(3, true) = 3");

@@ -44,6 +44,7 @@ final class StateBounds {
 
     static void play() {
         discarded();
+        analysedAnew();
         kept();
         refused();
         firstNamed();
@@ -79,6 +80,24 @@ final class StateBounds {
                         + pathsAfter(Graphs.LOOP + change) + "; ");
             }
             same(beginning, Graphs.LOOP, "analyse() = 4; ");
+        }
+    }
+
+    // An analysis takes nothing over from the graph that was analysed before.
+    private static void analysedAnew() {
+        Sentences.quote(10, "An earlier analysis, the walk and all counts are discarded");
+        String[] graphs = {"setNodes(2) = done; " + Graphs.ONE_EDGE + "analyse() = 1; ",
+            ANALYSED, Graphs.LOOP + "setWeight(2, 99) = 1; analyse() = 4; ",
+            Graphs.SELF + "analyse() = 4; ",
+            "text(c:bb,ab,bc); load() = 3; analyse() = 4; ",
+            "text(d:ab,ac,bd,cd); load() = 4; setWeight(3, 99) = 1; analyse() = 2; ",
+            "text(c:ac,ab,bc); load() = 3; setWeight(1, 0) = 1; analyse() = 2; ",
+            Graphs.CHAIN + "analyse() = 1; ", Graphs.UNFIT + "analyse() = 0; ",
+            Graphs.PATHS_200, Graphs.PATHS_201, Graphs.dense(24) + "analyse() = 238; "};
+        for (String before : graphs) {
+            for (String graph : graphs) {
+                same(before, "", graph);
+            }
         }
     }
 
